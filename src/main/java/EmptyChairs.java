@@ -1059,10 +1059,10 @@ public final class EmptyChairs {
             return way == COMES ? Math.max(DOOR, yards - walked) : Math.min(MOST_YARDS, yards + walked);
         }
 
-        /** A MINUTE of its way; tells if it is elsewhere then. */
-        boolean walkMinute() {
+        /** At least a MINUTE of its way; tells if it is elsewhere then. */
+        boolean walkOn(int minutes) {
             int before = yards;
-            yards = yardsAfter(1);
+            yards = yardsAfter(minutes);
             if (way == COMES && yards == DOOR && canWalk()) {
                 way = STAYS;
             }
@@ -1218,27 +1218,30 @@ public final class EmptyChairs {
 
         /** So many MINUTES go by: how many BELLS rang. */
         int pass(int minutes, Scale scale) {
+            int every = Math.max(1, law[BELL]);
             int rings = 0;
-            for (int gone = 0; gone < minutes; gone++) {
-                // Once a MINUTE moves nobody none of the next ones does, so all that is left goes by at once.
-                if (!walkAll()) {
-                    return rings + elapse(minutes - gone, scale);
-                }
-                rings += elapse(1, scale);
+            int left = minutes;
+            // Each round takes a MINUTE at least.
+            for (int round = 0; round < minutes && left > 0; round++) {
+                int toBell = Math.min(left, every - minute % every);
+                // If nobody is elsewhere then nobody will be, so all that is left goes by at once.
+                int gone = walkAll(toBell) ? toBell : left;
+                rings += elapse(gone, every, scale);
+                left -= gone;
             }
             return rings;
         }
 
-        private boolean walkAll() {
+        private boolean walkAll(int minutes) {
             boolean moved = false;
             for (int m = 0; m < members; m++) {
-                moved |= memberAt[m].walkMinute();
+                moved |= memberAt[m].walkOn(minutes);
             }
             return moved;
         }
 
-        private int elapse(int minutes, Scale scale) {
-            int every = Math.max(1, law[BELL]);
+        /** So many MINUTES in which all BELLS ring for who governs at their end: how many rang. */
+        private int elapse(int minutes, int every, Scale scale) {
             int rings = (minute + minutes) / every - minute / every;
             minute += minutes;
             if (rings > 0) {

@@ -41,6 +41,14 @@ public final class AwayTest {
         c.x.fall(3, true);
         findsNone(c, 0, 8);
         c.is("all stays as it is", c.x.member(1, 1), 0);
+        c.take("party a;party b;member d of a at 0;member e of a at 0;member f of b at 99;member g of b at 5;motion m for a against b;");
+        finds(c, 0, 2, 3, 20, 3);
+        c.x.join(2, 0);
+        c.x.join(3, 0);
+        c.x.side(0, 1, 2);
+        finds(c, 0, 0, 0, 0, 0);
+        c.take("party a;party b;member d of b at 0 dead 0;member e of a at 0;member f of a at 0;motion m for a against b;");
+        finds(c, 0, 2, 6, 20, 6);
     }
 
     // One dear one alone, or two cheap ones who are but 1 nearer.
@@ -98,6 +106,11 @@ public final class AwayTest {
         c.take("party a;party b;member d of a at 5;member f of b at 99;");
         c.is("-1 by a status of 0", c.x.game(0, 1, 0), -1);
         c.is("d called and away again", c.x.game(0, 1, 3), 0);
+        c.take("party a;party b;member d of a at 0;member e of a at 0;");
+        c.is("one of two", c.x.game(0, 1, 1), 2);
+        c.is("the other has no turn to use", c.x.game(0, 1, 2), 2);
+        c.is("both", c.x.game(0, 1, 3), 4);
+        c.is("against them", c.x.game(1, 0, 3), -2);
     }
 
     private static void moves() {

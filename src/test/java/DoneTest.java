@@ -65,6 +65,9 @@ public final class DoneTest {
         c.is("608 is none", c.x.bells(0), 201);
         c.x.minute(1);
         c.is("609 is one", c.x.bells(0), 202);
+        c.yes("each minute", c.x.rule(3, 1));
+        c.x.minute(3);
+        c.is("three more", c.x.bells(0), 205);
         c.no("no such party", c.x.bells(2), 2);
         c.no("no such party below", c.x.bells(-1), 2);
     }

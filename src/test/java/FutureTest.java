@@ -10,6 +10,7 @@ public final class FutureTest {
         carried();
         reigns();
         empty();
+        present();
         Check.end();
     }
 
@@ -83,10 +84,48 @@ public final class FutureTest {
         c.is("a", c.x.reign(0, 3), 1);
         c.is("a", c.x.reign(0, 2), 0);
         c.is("a", c.x.reign(0, 600), 598);
+        c.is("behind the first", Check.of("party a;member d of a at 5;").x.reign(0, 1), 1);
         c.no("no such party", c.x.reign(2, 0), 2);
         c.no("no such party below", c.x.reign(-1, 1), 2);
         c.no("none", c.x.reign(0, 0), 5);
         c.no("above", c.x.reign(0, 601), 5);
+    }
+
+    // What is asked of now does not look ahead: b has 1, a nothing, though in three MINUTES it will be the other way.
+    private static void present() {
+        Check c = walking();
+        c.x.tray(0, 3, 4);
+        c.is("counts", c.x.counts(0), 0);
+        c.is("power", c.x.power(1), 1);
+        c.is("power of a set", c.x.powerOf(3), 1);
+        c.is("governs", c.x.governs(), 1);
+        c.is("margin", c.x.margin(0), -1);
+        c.is("in", c.x.many(9), 1);
+        c.is("copies", c.x.copyCounts(0), 4);
+        c.is("of e", c.x.read(0, 1), 1);
+        c.is("fewest", c.x.fewestSet(0), 1);
+        c.is("power by", c.x.powerBy(1, 0), 1);
+        c.is("game", c.x.game(0, 1, 0), -1);
+        c.is("wins", c.x.wins(2), 1);
+        c.is("swings", c.x.swings(0), 0);
+        c.is("carried by", c.x.carriedBy(999, 9, 1), 2);
+        c.is("far for", c.x.farFor(1), 1);
+        c.no("far for", c.x.farFor(0), 8);
+        c.x.carry(1, 0);
+        c.is("at once", c.x.winning(), 0);
+        c.x.carry(1, 7);
+        c.is("at once, too", c.x.swings(1), 2);
+        c.x.carry(1, 0);
+        c.is("and here", c.x.lean(), 0);
+        c.x.carry(1, 7);
+        c.fraction("and there", c.x.share(1), 1, 1);
+        c.takeSessions("when governs b;stop;end;", 2);
+        c.is("governs, in sessions", c.x.live(0), 2);
+        c.takeSessions("when carried n;stop;end;", 2);
+        c.is("carried, in sessions", c.x.live(0), 2);
+        c.takeSessions("", 0);
+        c.fraction("all power behind sessions", c.x.mean(0, 1), 1, 1);
+        c.is("nobody walked", c.x.member(0, 1), 0);
     }
 
     private static void empty() {

@@ -4,6 +4,7 @@ public final class SessionsTest {
         troubles();
         steps();
         tests();
+        deepTests();
         missed();
         loops();
         limit();
@@ -73,6 +74,13 @@ public final class SessionsTest {
         for (int m : new int[] {0, 1, 2, 5}) {
             c.is("goes", c.x.member(m, 4), 2);
         }
+    }
+
+    private static void deepTests() {
+        Check c = Check.of("party a;party b;member d of a at 5;member e of b at 5;motion m for a against b;motion n for a against;");
+        c.takeSessions("loop 2;loop 3;when carried n;minute 1;end;when carried m;die d;end;end;end;", 6);
+        // 1 loop, 2 more, 6 times a when with a minute and a when.
+        lived(c, c.x.live(0), 0, 6, 0, 0, 0, 21);
     }
 
     private static void missed() {

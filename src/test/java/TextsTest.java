@@ -9,6 +9,7 @@ public final class TextsTest {
         tokens();
         oldOneStays();
         newOneReplaces();
+        nothingIsLeftOver();
         Check.end();
     }
 
@@ -143,6 +144,22 @@ public final class TextsTest {
         c.sessionsFault("minute 3;minute", 2, 15);
         c.is("sessions stay", c.x.live(0), 1);
         c.is("so long", c.x.many(8), 7);
+    }
+
+    // mean() lives elsewhere than the assembly is: nothing of that may come into the next one.
+    private static void nothingIsLeftOver() {
+        Check c = Check.of(Check.HOUSE);
+        c.takeSessions("go ann;go bob;minute 60;die fay;", 4);
+        c.yes("mean", c.x.mean(0, 3));
+        c.take("party a;member b of a at 7;member d of a at 7;");
+        int[] many = {1, 2, 0, 0, 50, 9, 1, 10, 0, 0, 0, 0, 0, 0, 2, 0};
+        for (int what = 0; what < many.length; what++) {
+            c.is("many " + what, c.x.many(what), many[what]);
+        }
+        c.is("stays", c.x.member(0, 4), 0);
+        c.no("no twin", c.x.member(0, 8), 8);
+        c.is("no bell", c.x.bells(0), 0);
+        c.no("no sessions", c.x.live(0), 8);
     }
 
     private static void newOneReplaces() {
