@@ -27,10 +27,7 @@ final class AssemblyBounds {
     }
 
     private static void ok(String title, String text, int members, String... rows) {
-        String[] all = new String[rows.length + 1];
-        all[0] = "assembly: " + text + " = " + members;
-        System.arraycopy(rows, 0, all, 1, rows.length);
-        Rows.test(10, title, all);
+        Rows.test(10, title, Rows.join(new String[] {"assembly: " + text + " = " + members}, rows));
     }
 
     private static void fault(String title, String text, int kind, int place) {

@@ -40,6 +40,8 @@ final class AwayBounds {
         Rows.test(40, "one is enough", "assembly: " + nine + " = 10", "fewest(0) = 1", "fewestSet(0) = 1", "fewest(1) = 1", "fewestSet(1) = 512");
         String all = "assembly: party a;party b;" + Rows.many("member # of a at 0;", 'c', 5) + Rows.many("member # of b at 999;", 'n', 5) + "motion m for a against b; = 10";
         Rows.test(40, "all five are as much, not more", all, "fewest(0) ! 8", "carry(9, 49) = 999", "fewest(0) = 5", "fewestSet(0) = 31", "cheapest(0) = 50", "cheapestSet(0) = 31");
+        Rows.test(40, "all who can be", "assembly: party a;party b;member c of a at 0;member d of a at 0;member e of b at 0 dead 0;member f of b at 0 sick;motion m for a against b; = 4", "fewest(0) = 2",
+            "fewestSet(0) = 3", "cheapest(0) = 20", "cheapestSet(0) = 3", "rule(2, 2) = 1", "fewest(0) ! 8");
         Rows.test(41, "of several sets the least as a number", "assembly: party a;party b;" + Rows.many("member # of a at 0;", 'c', 9) + "member z of b at 999;motion m for a against b; = 10", "fewest(0) = 2",
             "fewestSet(0) = 3", "fall(0, true) = 1", "fewestSet(0) = 2", "fall(0, false) = 1", "carry(4, 1) = 0", "carry(5, 1) = 0", "fewest(0) = 1", "fewestSet(0) = 1");
         Rows.test(41, "the last alone", "assembly: party a;party b;" + Rows.many("member # of b at 1;", 'c', 9) + "member z of a at 0;motion m for a against b; = 10", "fewestSet(0) ! 8", "side(0, 1, 2) = 1",
@@ -56,7 +58,7 @@ final class AwayBounds {
         Rows.test(43, "one less is less", three.replace("#", "5").replace("%", "5").replace("&", "4"), "cheapestSet(0) = 4", "cheapest(0) = 4", "fewestSet(0) = 1");
         // d alone gains 2, c and e, being out, 1 each.
         String pairs = "assembly: party a;party b;member c of a at 1 price 4;member d of a at 0 price #;member e of a at 1 price 4;member f of b at 999;member g of b at 1;motion m for a against b; = 5";
-        Rows.test(43, "two cheaper than one", pairs.replace("#", "9"), "cheapest(0) = 8", "cheapestSet(0) = 5", "fewestSet(0) = 2");
+        Rows.test(43, "two cheaper than one", pairs.replace("#", "9"), "cheapest(0) = 8", "cheapestSet(0) = 5", "fewest(0) = 1", "fewestSet(0) = 2");
         Rows.test(43, "two as dear as one: the fewest", pairs.replace("#", "8"), "cheapest(0) = 8", "cheapestSet(0) = 2");
         Rows.test(42, "the dearest: ten of 99", "assembly: party a;party b;" + Rows.many("member # of a at 999 price 99;", 'c', 9) + "member z of b at 0 price 99;motion m for b against a; = 10", "cheapest(0) ! 8",
             "side(0, 0, 2) = 1", "cheapest(0) = 99", "cheapestSet(0) = 512");

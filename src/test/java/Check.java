@@ -1,7 +1,3 @@
-import java.nio.ByteBuffer;
-import java.nio.charset.StandardCharsets;
-import java.util.Arrays;
-
 /** One EmptyChairs under test, with what its answers and its STATUS must be. */
 final class Check {
     static final String HOUSE = "far 30;buried 5;ill 1;bell 4;party red;party blue;party grey;"
@@ -61,14 +57,7 @@ final class Check {
 
     /** The text comes behind the tape, with blanks up to the next 20 bytes; gives its length. */
     int feed(String text) {
-        byte[] bytes = text.getBytes(StandardCharsets.ISO_8859_1);
-        byte[] padded = Arrays.copyOf(bytes, (bytes.length + 19) / 20 * 20);
-        Arrays.fill(padded, bytes.length, padded.length, (byte) ' ');
-        ByteBuffer b = ByteBuffer.wrap(padded);
-        while (b.hasRemaining()) {
-            x.feed(b.getInt(), b.getInt(), b.getInt(), b.getInt(), b.getInt());
-        }
-        return bytes.length;
+        return Rows.feed(x, text);
     }
 
     int assembly(String text) {

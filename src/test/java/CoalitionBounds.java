@@ -41,6 +41,7 @@ final class CoalitionBounds {
     private static void shares() {
         Rows.test(50, "no such PARTY", Rows.HOUSE, "share(0) = 1", "share(2) = 1", "share(-1) ! 2", "share(3) ! 2", "share(MIN) ! 2", "share(MAX) ! 2");
         Rows.test(50, "there are none", Rows.FULL, "share(0) ! 8", "share(3) ! 8", "share(4) ! 2", "top() -> 0", "bottom() -> 1");
+        Rows.test(50, "one SWING in all", "assembly: party a;member b of a at 1; = 1", "swings(0) = 1", "share(0) = 1", "top() -> 1", "bottom() -> 1");
         Rows.test(50, "0 is 0 by 1", Rows.FULL, "carry(0, 1) = 0", "share(1) = 1", "top() -> 0", "bottom() -> 1", "share(0) = 1", "top() -> 1", "bottom() -> 1");
         Rows.test(50, "without a common divisor", ALIKE, "share(3) = 1", "top() -> 1", "bottom() -> 4");
         Rows.test(50, "refused, the one told ahead stays", ALIKE, "share(3) = 1", "share(4) ! 2", "top() -> 1", "bottom() -> 4");
@@ -51,6 +52,7 @@ final class CoalitionBounds {
         Rows.test(51, "one has all", Rows.FULL, "carry(0, 1) = 0", "lean() = 1");
         Rows.test(51, "three of four alike", ALIKE, "lean() = 4");
         Rows.test(51, "six: a with one of three, or these three", ALIKE, "carry(1, 1) = 99", "carry(2, 1) = 99", "carry(3, 1) = 99", "lean() = 4", "winning() = 8");
+        Rows.test(51, "the first, the last can leave", "assembly: party a;party b;party c;member d of b at 1; = 1", "winning() = 4", "lean() = 1");
         Rows.test(51, "one PARTY", "assembly: party a;member b of a at 1; = 1", "lean() = 1");
     }
 }

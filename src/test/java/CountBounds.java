@@ -127,6 +127,8 @@ final class CountBounds {
         Rows.test(21, "a BELL at each multiple, none between", Rows.HOUSE, "minute(3) = 1", "bells(1) = 0", "minute(1) = 1", "bells(1) = 1", "minute(3) = 1", "bells(1) = 1", "minute(1) = 1", "bells(1) = 2");
         Rows.test(21, "BELL 1: each MINUTE; BELL 60: each sixtieth", Rows.HOUSE, "rule(3, 1) = 1", "minute(1) = 1", "bells(1) = 1", "minute(59) = 1", "bells(1) = 60", "rule(3, 60) = 1", "minute(59) = 1",
             "bells(1) = 60", "minute(1) = 1", "bells(1) = 61");
+        Rows.test(21, "the BELL within the MINUTES that go by, not at their end", "assembly: bell 4;party a;party b;member c of a at 70 speed 10;member d of b at 1; = 2", "walk(0, 1) = 1", "minute(2) = 0",
+            "minute(6) = 1", "bells(0) = 0", "bells(1) = 1", "many(15) = 1");
         Rows.test(21, "the BELL rings behind the walk of that MINUTE", "assembly: bell 2;party a;party b;member c of a at 5 speed 5;member d of b at 1 speed 9; = 2", "walk(1, 1) = 1", "minute(2) = 0",
             "bells(0) = 1", "bells(1) = 0", "carry(1, 9) = 0", "walk(1, 1) = 1", "rule(3, 3) = 1", "carry(0, 0) = 5", "minute(1) = -1", "bells(1) = 0", "many(15) = 1");
     }

@@ -29,22 +29,15 @@ final class DoneBounds {
             "many(15) = 2", "back() = 0", "minute(9) = 1", "bells(1) = 1", "many(15) = 2", "many(8) = 9", "member(0, 1) = 0", "member(1, 1) = 57");
     }
 
-    private static String[] rowsTo9600(String... rows) {
-        String[] all = new String[16 + rows.length];
-        java.util.Arrays.fill(all, 0, 16, "minute(600) = -1");
-        System.arraycopy(rows, 0, all, 16, rows.length);
-        return all;
-    }
-
     private static void lastMinute() {
-        Rows.test(24, "9,999 is the last MINUTE", rowsTo9600("minute(400) ! 7", "minute(600) ! 7", "many(8) = 9600", "minute(399) = -1", "many(8) = 9999", "many(15) = 999", "minute(1) ! 7",
+        Rows.test(24, "9,999 is the last MINUTE", Rows.after9600("minute(400) ! 7", "minute(600) ! 7", "many(8) = 9600", "minute(399) = -1", "many(8) = 9999", "many(15) = 999", "minute(1) ! 7",
             "minute(600) ! 7", "many(8) = 9999"));
-        Rows.test(24, "5 ahead of 7", rowsTo9600("minute(399) = -1", "minute(0) ! 5", "minute(601) ! 5", "minute(MAX) ! 5", "minute(1) ! 7"));
-        Rows.test(24, "one before the last", rowsTo9600("minute(398) = -1", "minute(2) ! 7", "minute(1) = -1", "minute(1) ! 7"));
-        Rows.test(24, "9,990 is the last BELL of 10, 9,999 of 9", rowsTo9600("minute(389) = -1", "many(15) = 998", "minute(1) = -1", "many(15) = 999", "rule(3, 9) = 1", "minute(8) = -1",
+        Rows.test(24, "5 ahead of 7", Rows.after9600("minute(399) = -1", "minute(0) ! 5", "minute(601) ! 5", "minute(MAX) ! 5", "minute(1) ! 7"));
+        Rows.test(24, "one before the last", Rows.after9600("minute(398) = -1", "minute(2) ! 7", "minute(1) = -1", "minute(1) ! 7"));
+        Rows.test(24, "9,990 is the last BELL of 10, 9,999 of 9", Rows.after9600("minute(389) = -1", "many(15) = 998", "minute(1) = -1", "many(15) = 999", "rule(3, 9) = 1", "minute(8) = -1",
             "many(15) = 999", "minute(1) = -1", "many(15) = 1000"));
-        Rows.test(35, "what will be goes beyond 9,999", rowsTo9600("minute(399) = -1", "governsIn(600) ! 8", "emptyIn() = 0"));
-        Rows.test(24, "an ASSEMBLY that is taken has all MINUTES again", rowsTo9600("minute(399) = -1", "assembly(0) = 0", "minute(600) = -1", "many(8) = 600"));
+        Rows.test(35, "what will be goes beyond 9,999", Rows.after9600("minute(399) = -1", "governsIn(600) ! 8", "emptyIn() = 0"));
+        Rows.test(24, "an ASSEMBLY that is taken has all MINUTES again", Rows.after9600("minute(399) = -1", "assembly(0) = 0", "minute(600) = -1", "many(8) = 600"));
     }
 
     private static void coming() {

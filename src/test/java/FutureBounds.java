@@ -17,9 +17,7 @@ final class FutureBounds {
     }
 
     private static void walking(int promise, String title, String... rows) {
-        String[] all = java.util.Arrays.copyOf(WALKING, WALKING.length + rows.length);
-        System.arraycopy(rows, 0, all, WALKING.length, rows.length);
-        Rows.test(promise, title, all);
+        Rows.test(promise, title, Rows.join(WALKING, rows));
     }
 
     private static void yards() {

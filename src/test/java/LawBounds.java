@@ -12,6 +12,7 @@ final class LawBounds {
         sures();
         asks();
         seeks();
+        seekOrders();
         seekAts();
     }
 
@@ -98,6 +99,27 @@ final class LawBounds {
         Rows.test(57, "the last of six alone has ODDS", "assembly: " + Rows.many("room # takes 60 odds 0;", 'a', 5) + "room z takes 7 odds 3; = 0", "seek() = 1", "top() -> 7", "bottom() -> 1");
         Rows.test(57, "six alike", Rows.FULL, "seek() = 1", "top() -> 7", "bottom() -> 2");
         Rows.test(57, "refused, the FRACTION stays", Rows.HOUSE, "seek() = 1", "assembly(0) = 0", "seek() ! 8", "top() -> 45", "bottom() -> 2");
+    }
+
+    // All orders of four ROOMS that take 1 MINUTE each: the one with the most ODDS first.
+    private static void seekOrders() {
+        for (int code = 0; code < 256; code++) {
+            int[] odds = {code & 3, code >> 2 & 3, code >> 4 & 3, code >> 6};
+            StringBuilder text = new StringBuilder();
+            boolean[] seen = new boolean[4];
+            for (int i = 0; i < 4; i++) {
+                seen[odds[i]] = true;
+                text.append("room ").append((char) ('a' + i)).append(" takes 1 odds ").append(odds[i]).append(';');
+            }
+            if (seen[0] && seen[1] && seen[2] && seen[3]) {
+                String[] rows = new String[5];
+                rows[0] = "assembly: " + text + " = 0";
+                for (int i = 0; i < 4; i++) {
+                    rows[4 - odds[i]] = "seekAt(" + (3 - odds[i]) + ") = " + i;
+                }
+                Rows.test(58, "the most ODDS first", rows);
+            }
+        }
     }
 
     private static void seekAts() {

@@ -55,6 +55,20 @@ final class Rows {
         return b.toString();
     }
 
+    /** Those rows and then these. */
+    static String[] join(String[] first, String... rows) {
+        String[] all = Arrays.copyOf(first, first.length + rows.length);
+        System.arraycopy(rows, 0, all, first.length, rows.length);
+        return all;
+    }
+
+    /** Rows behind 9,600 MINUTES in an ASSEMBLY of nobody. */
+    static String[] after9600(String... rows) {
+        String[] minutes = new String[16];
+        Arrays.fill(minutes, "minute(600) = -1");
+        return join(minutes, rows);
+    }
+
     static void test(int promise, String title, String... rows) {
         TESTS[promise]++;
         Rows run = new Rows();

@@ -25,11 +25,7 @@ final class SessionBounds {
     }
 
     private static void ok(String title, String text, int steps, String... rows) {
-        String[] all = new String[rows.length + 2];
-        all[0] = Rows.HOUSE;
-        all[1] = "sessions: " + text + " = " + steps;
-        System.arraycopy(rows, 0, all, 2, rows.length);
-        Rows.test(11, title, all);
+        Rows.test(11, title, Rows.join(new String[] {Rows.HOUSE, "sessions: " + text + " = " + steps}, rows));
     }
 
     private static void fault(String title, String text, int kind, int place) {
@@ -182,18 +178,11 @@ final class SessionBounds {
         Rows.test(59, "without MEMBERS: MISSED", "sessions: any; = 1", "live(0) = 1", "lived(0) = 1");
     }
 
-    private static String[] to9600(String... rows) {
-        String[] all = new String[16 + rows.length];
-        java.util.Arrays.fill(all, 0, 16, "minute(600) = -1");
-        System.arraycopy(rows, 0, all, 16, rows.length);
-        return all;
-    }
-
     private static void minutes() {
-        Rows.test(59, "up to 9,999", to9600("sessions: loop 6;minute 60;end;minute 39; = 3", "live(0) = 8", "lived(0) = 0", "lived(1) = 399", "lived(2) = 39", "many(8) = 9999"));
-        Rows.test(59, "beyond 9,999 they are MISSED as a whole", to9600("sessions: loop 6;minute 60;end;minute 40;minute 39;minute 1; = 5", "live(0) = 10", "lived(0) = 2", "lived(1) = 399", "lived(2) = 39",
+        Rows.test(59, "up to 9,999", Rows.after9600("sessions: loop 6;minute 60;end;minute 39; = 3", "live(0) = 8", "lived(0) = 0", "lived(1) = 399", "lived(2) = 39", "many(8) = 9999"));
+        Rows.test(59, "beyond 9,999 they are MISSED as a whole", Rows.after9600("sessions: loop 6;minute 60;end;minute 40;minute 39;minute 1; = 5", "live(0) = 10", "lived(0) = 2", "lived(1) = 399", "lived(2) = 39",
             "many(8) = 9999"));
-        Rows.test(59, "all MISSED at 9,999", to9600("minute(399) = -1", "sessions: minute 1;minute 60; = 2", "live(0) = 2", "lived(0) = 2", "lived(1) = 0", "lived(2) = 0", "many(8) = 9999"));
+        Rows.test(59, "all MISSED at 9,999", Rows.after9600("minute(399) = -1", "sessions: minute 1;minute 60; = 2", "live(0) = 2", "lived(0) = 2", "lived(1) = 0", "lived(2) = 0", "many(8) = 9999"));
         Rows.test(59, "BELLS ring in SESSIONS", Rows.HOUSE, "sessions: minute 3;minute 1;minute 60; = 3", "live(0) = 3", "lived(2) = 16", "bells(1) = 16");
     }
 
@@ -201,6 +190,8 @@ final class SessionBounds {
         for (String word : "come go stay fall die".split(" ")) {
             Rows.test(59, word + " of the DEAD is MISSED", Rows.HOUSE, "sessions: " + word + " dot; = 1", "live(0) = 1", "lived(0) = 1", "lived(3) = 0", "member(3, 4) = 0", "member(3, 5) = 5", "member(3, 6) = 0");
         }
+        Rows.test(59, "come, go, stay, the latest being so", Rows.HOUSE, "sessions: go ann;come ann;stay ann;stay bob;go bob;come bob;come cid;stay cid;go cid; = 9", "live(0) = 9", "lived(0) = 0", "member(0, 4) = 0", "member(1, 4) = 1",
+            "member(2, 4) = 2");
         Rows.test(59, "what is so already is not MISSED", Rows.HOUSE, "sessions: stay ann;come bob;come bob;go cid;go cid; = 5", "live(0) = 5", "lived(0) = 0", "member(0, 4) = 0", "member(1, 4) = 1", "member(2, 4) = 2");
         Rows.test(59, "fall: SICK, or up if it was", Rows.HOUSE, "sessions: fall ann;fall eve; = 2", "live(0) = 2", "lived(0) = 0", "many(11) = 1", "live(0) = 2", "many(11) = 16");
         Rows.test(59, "die once, MISSED then", Rows.HOUSE, "sessions: die ann;die ann; = 2", "live(0) = 2", "lived(0) = 1", "lived(3) = 1", "live(0) = 2", "lived(0) = 2", "lived(3) = 0");
@@ -222,7 +213,7 @@ final class SessionBounds {
         Rows.test(59, "governs: nobody is no PARTY", "assembly: party a;party b;member c of a at 1;member d of b at 1; = 2", "sessions: when governs a;stop;end;when governs b;stop;end; = 4", "live(0) = 2", "carry(1, 50) = 1",
             "live(0) = 3", "carry(0, 51) = 1", "live(0) = 2");
         Rows.test(59, "carried: greater, not as great", "assembly: party a;party b;member c of a at 1;member d of b at 1;motion m for a against b; = 2", "sessions: when carried m;stop;end; = 2", "live(0) = 1",
-            "carry(0, 50) = 1", "live(0) = 2");
+            "carry(0, 50) = 1", "live(0) = 2", "carry(0, 0) = 50", "live(0) = 1");
         Rows.test(59, "yards of the DEAD and the SICK", Rows.HOUSE, "sessions: when yards dot=60;any;end;when yards eve=0;any;end; = 4", "live(0) = 4");
     }
 

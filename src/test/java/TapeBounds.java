@@ -69,6 +69,8 @@ final class TapeBounds {
         Rows.test(10, "it is MINUTE 0, no BELL has rung, there are no SESSIONS, all STAY", Rows.HOUSE, "sessions: minute 4; = 1", "minute(600) = 1", "walk(0, 2) = 1", "fall(0, true) = 1",
             "hide(0, true) = 1", Rows.HOUSE, "many(8) = 0", "bells(0) = 0", "bells(1) = 0", "bells(2) = 0", "many(15) = 0", "live(0) ! 8", "mean(0, 1) ! 8", "member(0, 4) = 0",
             "member(0, 6) = 0", "member(0, 7) = 0");
+        Rows.test(10, "nothing of what mean() LIVED is in the next one", Rows.HOUSE, "sessions: go ann;go bob;come cid;minute 60;die fay;fall cid; = 6", "mean(0, 20) = 1", Rows.HOUSE, "many(8) = 0", "bells(0) = 0",
+            "bells(1) = 0", "bells(2) = 0", "many(15) = 0", "member(0, 4) = 0", "member(1, 4) = 0", "member(2, 4) = 0", "member(2, 6) = 0", "member(5, 5) ! 8", "member(2, 8) ! 8", "live(0) ! 8");
         Rows.test(10, "BELLS for nobody are gone, too", "minute(600) = -1", "many(15) = 60", "assembly(0) = 0", "many(15) = 0", "many(8) = 0");
         Rows.test(10, "the law is as without if it is not told", Rows.HOUSE, "rule(0, 999) = 1", "rule(1, 99) = 1", "rule(2, 2) = 1", "rule(3, 60) = 1", "assembly: party a; = 0", "many(4) = 50",
             "many(5) = 9", "many(6) = 1", "many(7) = 10");

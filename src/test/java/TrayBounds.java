@@ -119,9 +119,7 @@ final class TrayBounds {
         "write(1, 1, 21) = 1", "tray(2, 2, 3) = 1"};
 
     private static void testTwo(String title, String... rows) {
-        String[] all = java.util.Arrays.copyOf(TWO, TWO.length + rows.length);
-        System.arraycopy(rows, 0, all, TWO.length, rows.length);
-        Rows.test(8, title, all);
+        Rows.test(8, title, Rows.join(TWO, rows));
     }
 
     private static void pours() {
