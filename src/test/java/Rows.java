@@ -71,6 +71,11 @@ final class Rows {
 
     static void test(int promise, String title, String... rows) {
         TESTS[promise]++;
+        play("promise " + promise + ", " + title, rows);
+    }
+
+    /** Plays rows on one new object, and tells those that are not as due. */
+    static void play(String title, String... rows) {
         Rows run = new Rows();
         for (int i = 0; i < rows.length; i++) {
             rowsRun++;
@@ -82,9 +87,17 @@ final class Rows {
             }
             if (!run.trouble.isEmpty()) {
                 wrong++;
-                System.out.println("promise " + promise + ", " + title + ": " + rows[i] + " .. " + run.trouble);
+                System.out.println(title + ": " + rows[i] + " .. " + run.trouble);
             }
         }
+    }
+
+    static int rowsRun() {
+        return rowsRun;
+    }
+
+    static int wrong() {
+        return wrong;
     }
 
     /** All promises have tests, and no row was wrong. */
