@@ -81,7 +81,8 @@ final class SessionSentences {
         Document.test("governs: nobody does", "assembly: party a;party b;member c of a at 0;motion m for a against b; = 1", ok("when governs a;stop;end;when governs b;stop;end;when carried m;stop;end;", 6),
             "live(0) = 3");
         Document.test("as it is then", Rows.HOUSE, ok("when yards bob=40;go bob;minute 1;end;when yards bob=50;die ann;end;when carried bread;stop;end;", 7), "live(0) = 7", "member(1, 1) = 50");
-        Document.test("one that GOES is where it is", Rows.HOUSE, "walk(0, 2) = 1", ok("when governs blue;when carried war;stop;end;end;", 3), "live(0) = 3", "governsIn(1) ! 8", "minute(1) = -1", "live(0) = 1");
+        Document.test("one that GOES is where it is", Rows.HOUSE, "walk(0, 2) = 1", ok("when governs blue;when carried war;stop;end;end;", 3), "live(0) = 3", "governsIn(1) ! 8", "minute(1) = -1", "live(0) = 1",
+            "assembly: party a;member b of a at 0;motion m for a against; = 1", "walk(0, 2) = 1", ok("when carried m;stop;end;", 2), "live(0) = 1", "minute(1) = 0", "live(0) = 2");
         Document.test("nothing left out", Rows.HOUSE, fault("when governs;", 2, 12), fault("when carried;", 2, 12), fault("when yards;", 2, 10), fault("when yards ann;", 2, 14), fault("when yards ann 5;", 2, 15),
             fault("when yards ann<;", 2, 15), fault("when governs red<5;", 2, 16), fault("when governs 5;", 2, 13));
         Document.says("COMPARES: < or > or =");
